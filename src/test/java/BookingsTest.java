@@ -14,6 +14,8 @@ public final class BookingsTest {
         putOffOnTheRight();
         goingOver();
         goingOverToTheFirst();
+        goingOverToTheEnds();
+        eachSailingAnew();
         theThirdTime();
         asked();
         accounts();
@@ -309,6 +311,39 @@ public final class BookingsTest {
         Check.due("22 0 to 2 by another ship", 4, () -> x.sailingOf(1));
         x.cancel(4);
         Check.due("22 1 to 2 does not count", -1, () -> x.sailingOf(1));
+    }
+
+    private static void goingOverToTheEnds() {
+        ArchipelagoFerries x = new ArchipelagoFerries();
+        x.ship(0, 1, 10, 1, 1, 10);
+        x.ship(0, 1, 10, 1, 1, 10);
+        x.plan(0, 1, 10000, 10);
+        x.plan(1, 1, 0, 10);
+        x.book(0, 1, 0, 0, 0, false);
+        x.cancel(1);
+        Check.due("22 to the lowest number, in the last hour", 0, () -> x.sailingOf(0));
+    }
+
+    /** What one sailing takes leaves no trace in the next. */
+    private static void eachSailingAnew() {
+        ArchipelagoFerries x = ready(2, 20, 100);
+        x.plan(0, 0, 4, 10);
+        x.plan(0, 1, 8, 10);
+        for (int sailing = 0; sailing < 3; sailing++) {
+            x.book(0, sailing, 1, 20, 45, true);
+            x.book(0, sailing, 1, 20, 35, false);
+            x.book(0, sailing, 1, 1, 20, false);
+        }
+        x.pass(12);
+        // The third of the first sailing goes over to the third sailing, and takes the left lane there.
+        lanes("23 each anew", x, 0, 1, 0, 0, 1, -1, 1, -1, 0);
+        for (int sailing = 0; sailing < 2; sailing++) {
+            int asked = sailing;
+            Check.due("25 each anew", 2, () -> x.taken(asked));
+            Check.due("26 each anew", 10, () -> x.list(asked));
+        }
+        Check.due("25 the last", 3, () -> x.taken(2));
+        Check.due("26 the last", -5, () -> x.list(2));
     }
 
     private static void theThirdTime() {
