@@ -22,16 +22,6 @@ public final class BookingsTest {
         Check.end();
     }
 
-    /** A ship at the island 0 that sails to the island 1 in hour 0, with the number 0. */
-    private static ArchipelagoFerries ready(int lanes, int length, int weight) {
-        ArchipelagoFerries x = new ArchipelagoFerries();
-        x.ship(0, lanes, length, weight, 1, 10);
-        x.fill(0, 1000);
-        x.crew(0, 0, 500);
-        x.plan(0, 1, 0, 10);
-        return x;
-    }
-
     private static void lanes(String what, ArchipelagoFerries x, int... due) {
         for (int i = 0; i < due.length; i++) {
             int asked = i;
@@ -40,7 +30,7 @@ public final class BookingsTest {
     }
 
     private static void book() {
-        ArchipelagoFerries x = ready(1, 10, 1);
+        ArchipelagoFerries x = Worlds.ready(1, 10, 1);
         Check.refused("21 person -1", Check.OUT_OF_BOUNDS, () -> x.book(-1, 0, 9, 0, 0, false));
         Check.refused("21 person 10", Check.OUT_OF_BOUNDS, () -> x.book(10, 0, 0, 0, 0, false));
         Check.refused("21 sailing -1", Check.OUT_OF_BOUNDS, () -> x.book(0, -1, 0, 0, 0, false));
@@ -64,7 +54,7 @@ public final class BookingsTest {
     }
 
     private static void bookMost() {
-        ArchipelagoFerries x = ready(1, 10, 1);
+        ArchipelagoFerries x = Worlds.ready(1, 10, 1);
         for (int i = 0; i < 40; i++) {
             Check.due("21 number", i, () -> x.book(0, 0, 0, 0, 0, false));
         }
@@ -102,7 +92,7 @@ public final class BookingsTest {
     }
 
     private static void islandersWhenBooked() {
-        ArchipelagoFerries x = ready(1, 10, 100);
+        ArchipelagoFerries x = Worlds.ready(1, 10, 100);
         x.book(1, 0, 1, 10, 1, false);
         x.reside(1, 0);
         x.reside(2, 1);
@@ -116,7 +106,7 @@ public final class BookingsTest {
     }
 
     private static void islandersFirst() {
-        ArchipelagoFerries x = ready(1, 20, 100);
+        ArchipelagoFerries x = Worlds.ready(1, 20, 100);
         x.reside(5, 0);
         x.reside(6, 1);
         x.book(0, 0, 1, 10, 1, false);
@@ -129,7 +119,7 @@ public final class BookingsTest {
     }
 
     private static void lanesKeptEven() {
-        ArchipelagoFerries x = ready(2, 100, 1000);
+        ArchipelagoFerries x = Worlds.ready(2, 100, 1000);
         int[] weights = {30, 10, 10, 10, 5, 5};
         for (int weight : weights) {
             x.book(0, 0, 1, 1, weight, false);
@@ -138,7 +128,7 @@ public final class BookingsTest {
         // 30 | 10 | 20 | 30, then even, so the lowest one, then the right one again.
         lanes("23 kept even", x, 0, 1, 1, 1, 0, 1);
         Check.due("26 even", 0, () -> x.list(0));
-        ArchipelagoFerries y = ready(4, 10, 1000);
+        ArchipelagoFerries y = Worlds.ready(4, 10, 1000);
         for (int i = 0; i < 4; i++) {
             y.book(0, 0, 1, 10, 10 + i, false);
         }
@@ -149,7 +139,7 @@ public final class BookingsTest {
     }
 
     private static void lanesInTheMiddle() {
-        ArchipelagoFerries x = ready(3, 20, 1000);
+        ArchipelagoFerries x = Worlds.ready(3, 20, 1000);
         x.book(0, 0, 1, 10, 200, false);
         x.book(0, 0, 1, 10, 7, false);
         x.book(0, 0, 1, 20, 6, false);
@@ -159,7 +149,7 @@ public final class BookingsTest {
         // What lies in the middle weighs on no side; only when it is full are the left and then the right taken.
         lanes("23 three lanes", x, 1, 1, 0, 2, -1);
         Check.due("26 three lanes", -3, () -> x.list(0));
-        ArchipelagoFerries y = ready(1, 20, 1000);
+        ArchipelagoFerries y = Worlds.ready(1, 20, 1000);
         y.book(0, 0, 1, 10, 200, false);
         y.book(0, 0, 1, 10, 200, false);
         y.pass(1);
@@ -168,7 +158,7 @@ public final class BookingsTest {
     }
 
     private static void lengthsAndWeights() {
-        ArchipelagoFerries x = ready(1, 30, 50);
+        ArchipelagoFerries x = Worlds.ready(1, 30, 50);
         x.book(0, 0, 1, 31, 1, false);
         x.book(0, 0, 1, 1, 51, false);
         x.book(0, 0, 1, 20, 30, false);
@@ -183,32 +173,32 @@ public final class BookingsTest {
     }
 
     private static void dangerousGoods() {
-        ArchipelagoFerries two = ready(2, 40, 1000);
+        ArchipelagoFerries two = Worlds.ready(2, 40, 1000);
         two.book(0, 0, 1, 1, 1, true);
         two.book(0, 0, 1, 1, 1, true);
         two.book(0, 0, 1, 1, 1, false);
         two.pass(1);
         lanes("23 beside", two, 0, -1, 1);
-        ArchipelagoFerries three = ready(3, 40, 1000);
+        ArchipelagoFerries three = Worlds.ready(3, 40, 1000);
         three.book(0, 0, 1, 40, 10, false);
         three.book(0, 0, 1, 1, 10, true);
         three.book(0, 0, 1, 1, 10, true);
         three.pass(1);
         // The first fills the middle; the next lies on the left, and two lanes on, on the right, the last.
         lanes("23 three lanes", three, 1, 0, 2);
-        ArchipelagoFerries middle = ready(3, 40, 1000);
+        ArchipelagoFerries middle = Worlds.ready(3, 40, 1000);
         middle.book(0, 0, 1, 1, 30, true);
         middle.book(0, 0, 1, 1, 1, true);
         middle.pass(1);
         lanes("23 beside the middle", middle, 1, -1);
-        ArchipelagoFerries four = ready(4, 40, 1000);
+        ArchipelagoFerries four = Worlds.ready(4, 40, 1000);
         four.book(0, 0, 1, 1, 10, true);
         four.book(0, 0, 1, 1, 10, true);
         four.book(0, 0, 1, 1, 10, true);
         four.book(0, 0, 1, 1, 10, false);
         four.pass(1);
         lanes("23 at most two", four, 0, 2, -1, 0);
-        ArchipelagoFerries best = ready(4, 40, 1000);
+        ArchipelagoFerries best = Worlds.ready(4, 40, 1000);
         best.book(0, 0, 1, 1, 10, false);
         best.book(0, 0, 1, 1, 10, true);
         best.book(0, 0, 1, 1, 10, true);
@@ -216,7 +206,7 @@ public final class BookingsTest {
         // The second goes to the right, into the lane 2, where the third may be neither in 1, 2 nor 3.
         lanes("23 not in the best", best, 0, 2, 0);
         // The lanes 0 and 3 hold one each by lengths: no lane is free of both.
-        ArchipelagoFerries full = ready(4, 10, 1000);
+        ArchipelagoFerries full = Worlds.ready(4, 10, 1000);
         full.book(0, 0, 1, 10, 15, true);
         full.book(0, 0, 1, 10, 15, false);
         full.book(0, 0, 1, 10, 15, true);
@@ -225,7 +215,7 @@ public final class BookingsTest {
     }
 
     private static void putOff() {
-        ArchipelagoFerries x = ready(2, 40, 1000);
+        ArchipelagoFerries x = Worlds.ready(2, 40, 1000);
         x.book(0, 0, 1, 40, 50, false);
         x.book(0, 0, 1, 30, 10, false);
         x.book(0, 0, 1, 11, 10, false);
@@ -236,11 +226,11 @@ public final class BookingsTest {
         Check.due("26 put off", -10, () -> x.list(0));
         Check.due("25 put off", 2, () -> x.taken(0));
         Check.due("22 put off and paid back", -1, () -> x.sailingOf(0));
-        ArchipelagoFerries edge = ready(2, 40, 1000);
+        ArchipelagoFerries edge = Worlds.ready(2, 40, 1000);
         edge.book(0, 0, 1, 40, 20, false);
         edge.pass(1);
         Check.due("26 20 is not above 20", 20, () -> edge.list(0));
-        ArchipelagoFerries above = ready(2, 40, 1000);
+        ArchipelagoFerries above = Worlds.ready(2, 40, 1000);
         above.book(0, 0, 1, 40, 21, false);
         above.pass(1);
         Check.due("26 21 is above 20", 0, () -> above.list(0));
@@ -250,7 +240,7 @@ public final class BookingsTest {
 
     /** The last one taken is meant, which is an islander's only if no other one is there. */
     private static void putOffOnTheRight() {
-        ArchipelagoFerries x = ready(2, 40, 1000);
+        ArchipelagoFerries x = Worlds.ready(2, 40, 1000);
         x.reside(1, 0);
         x.book(0, 0, 1, 1, 100, false);
         x.book(0, 0, 1, 10, 60, false);
@@ -265,7 +255,7 @@ public final class BookingsTest {
     }
 
     private static void goingOver() {
-        ArchipelagoFerries x = ready(1, 10, 1000);
+        ArchipelagoFerries x = Worlds.ready(1, 10, 1000);
         x.plan(0, 0, 4, 10);
         x.plan(0, 1, 8, 30);
         x.reside(1, 1);
@@ -326,7 +316,7 @@ public final class BookingsTest {
 
     /** What one sailing takes leaves no trace in the next. */
     private static void eachSailingAnew() {
-        ArchipelagoFerries x = ready(2, 20, 100);
+        ArchipelagoFerries x = Worlds.ready(2, 20, 100);
         x.plan(0, 0, 4, 10);
         x.plan(0, 1, 8, 10);
         for (int sailing = 0; sailing < 3; sailing++) {
@@ -370,7 +360,7 @@ public final class BookingsTest {
     }
 
     private static void asked() {
-        ArchipelagoFerries x = ready(2, 10, 1000);
+        ArchipelagoFerries x = Worlds.ready(2, 10, 1000);
         for (int number : new int[] {-1, 1, Integer.MAX_VALUE, Integer.MIN_VALUE}) {
             Check.refused("22 no booking", Check.OUT_OF_BOUNDS, () -> x.sailingOf(number));
             Check.refused("23 no booking", Check.OUT_OF_BOUNDS, () -> x.lane(number));
@@ -395,7 +385,7 @@ public final class BookingsTest {
     }
 
     private static void accounts() {
-        ArchipelagoFerries x = ready(1, 10, 1);
+        ArchipelagoFerries x = Worlds.ready(1, 10, 1);
         for (int line : new int[] {-1, 3, Integer.MIN_VALUE, Integer.MAX_VALUE}) {
             Check.refused("27 line " + line, Check.ARGUMENT, () -> x.account(line));
             Check.refused("28 line " + line, Check.ARGUMENT, () -> x.accountAnew(line));

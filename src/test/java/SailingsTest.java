@@ -21,25 +21,13 @@ public final class SailingsTest {
         Check.end();
     }
 
-    /** An object with ships at the islands 0 and 1, both with fuel, and a crew each. */
-    private static ArchipelagoFerries twoShips() {
-        ArchipelagoFerries x = new ArchipelagoFerries();
-        x.ship(0, 2, 50, 500, 1, 10);
-        x.ship(1, 2, 50, 500, 1, 10);
-        x.fill(0, 1000);
-        x.fill(1, 1000);
-        x.crew(0, 0, 500);
-        x.crew(1, 0, 500);
-        return x;
-    }
-
     private static long told(ArchipelagoFerries x, int what, int ship, int from, int to) {
         x.hinder(what, ship, from, to);
         return 0;
     }
 
     private static void plan() {
-        ArchipelagoFerries x = twoShips();
+        ArchipelagoFerries x = Worlds.twoShips();
         Check.refused("10 ship 2", Check.OUT_OF_BOUNDS, () -> x.plan(2, 1, -1, 0));
         Check.refused("10 ship -1", Check.OUT_OF_BOUNDS, () -> x.plan(-1, 1, 0, 1));
         Check.refused("10 island 6", Check.OUT_OF_BOUNDS, () -> x.plan(0, 6, -1, 0));
@@ -64,7 +52,7 @@ public final class SailingsTest {
     }
 
     private static void planBehindCancelled() {
-        ArchipelagoFerries x = twoShips();
+        ArchipelagoFerries x = Worlds.twoShips();
         x.plan(0, 1, 2, 10);
         x.plan(0, 2, 10, 10);
         x.cancel(1);
@@ -81,7 +69,7 @@ public final class SailingsTest {
     }
 
     private static void planMost() {
-        ArchipelagoFerries x = twoShips();
+        ArchipelagoFerries x = Worlds.twoShips();
         for (int i = 0; i < 24; i++) {
             int number = x.plan(0, i % 2 == 0 ? 1 : 0, 2 * i, 10);
             Check.same("10 number", Integer.toString(number), Integer.toString(i));
@@ -99,7 +87,7 @@ public final class SailingsTest {
     }
 
     private static void cancel() {
-        ArchipelagoFerries x = twoShips();
+        ArchipelagoFerries x = Worlds.twoShips();
         Check.refused("11 no sailing", Check.OUT_OF_BOUNDS, () -> x.cancel(0));
         x.plan(0, 1, 2, 10);
         x.plan(0, 0, 5, 10);
@@ -126,7 +114,7 @@ public final class SailingsTest {
     }
 
     private static void replace() {
-        ArchipelagoFerries x = twoShips();
+        ArchipelagoFerries x = Worlds.twoShips();
         x.plan(0, 1, 3, 45);
         x.cancel(0);
         x.ship(0, 1, 10, 1, 1, 40);
@@ -148,7 +136,7 @@ public final class SailingsTest {
     }
 
     private static void replaceRefused() {
-        ArchipelagoFerries x = twoShips();
+        ArchipelagoFerries x = Worlds.twoShips();
         x.plan(0, 1, 0, 10);
         Check.refused("12 sailing 1", Check.OUT_OF_BOUNDS, () -> x.replace(1, 0));
         Check.refused("12 sailing -1", Check.OUT_OF_BOUNDS, () -> x.replace(-1, 0));
@@ -176,7 +164,7 @@ public final class SailingsTest {
     }
 
     private static void replaceBySameShip() {
-        ArchipelagoFerries x = twoShips();
+        ArchipelagoFerries x = Worlds.twoShips();
         x.hinder(0, 0, 0, 0);
         x.plan(0, 1, 0, 300);
         x.pass(1);
@@ -191,7 +179,7 @@ public final class SailingsTest {
     }
 
     private static void pass() {
-        ArchipelagoFerries x = twoShips();
+        ArchipelagoFerries x = Worlds.twoShips();
         Check.refused("13 none", Check.ARGUMENT, () -> x.pass(0));
         Check.refused("13 below none", Check.ARGUMENT, () -> x.pass(Integer.MIN_VALUE));
         Check.refused("13 49", Check.ARGUMENT, () -> x.pass(49));
@@ -288,7 +276,7 @@ public final class SailingsTest {
     }
 
     private static void state() {
-        ArchipelagoFerries x = twoShips();
+        ArchipelagoFerries x = Worlds.twoShips();
         Check.refused("15 no sailing", Check.OUT_OF_BOUNDS, () -> x.state(0));
         Check.refused("15 sailing -1", Check.OUT_OF_BOUNDS, () -> x.state(-1));
         x.plan(0, 1, 0, 10);
@@ -307,7 +295,7 @@ public final class SailingsTest {
     }
 
     private static void ends() {
-        ArchipelagoFerries x = twoShips();
+        ArchipelagoFerries x = Worlds.twoShips();
         Check.refused("16 no sailing", Check.OUT_OF_BOUNDS, () -> x.ends(0));
         x.plan(0, 1, 3, 31);
         Check.due("16 planned", 7, () -> x.ends(0));
@@ -323,7 +311,7 @@ public final class SailingsTest {
     }
 
     private static void busAfter() {
-        ArchipelagoFerries x = twoShips();
+        ArchipelagoFerries x = Worlds.twoShips();
         Check.refused("17 no sailing", Check.OUT_OF_BOUNDS, () -> x.busAfter(0));
         Check.refused("17 sailing -1", Check.OUT_OF_BOUNDS, () -> x.busAfter(-1));
         x.plan(0, 1, 3, 40);
@@ -347,7 +335,7 @@ public final class SailingsTest {
     }
 
     private static void place() {
-        ArchipelagoFerries x = twoShips();
+        ArchipelagoFerries x = Worlds.twoShips();
         Check.refused("18 ship 2", Check.OUT_OF_BOUNDS, () -> x.place(2));
         Check.refused("18 ship -1", Check.OUT_OF_BOUNDS, () -> x.place(-1));
         x.plan(0, 3, 2, 20);
@@ -361,7 +349,7 @@ public final class SailingsTest {
     }
 
     private static void placeByLine() {
-        ArchipelagoFerries x = twoShips();
+        ArchipelagoFerries x = Worlds.twoShips();
         Check.refused("19 ship 2", Check.OUT_OF_BOUNDS, () -> x.placeByLine(2, -1));
         Check.refused("19 ship -1", Check.OUT_OF_BOUNDS, () -> x.placeByLine(-1, 0));
         Check.refused("19 hour -1", Check.ARGUMENT, () -> x.placeByLine(0, -1));
