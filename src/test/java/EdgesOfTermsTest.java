@@ -327,7 +327,7 @@ public final class EdgesOfTermsTest {
         states("in the hour in which it came it is there, elsewhere it is not", x, 2, 2, 71, 11);
     }
 
-    /** "... or is out", "with both" hours, "of the latter for a ship" */
+    /** "... or is out": "both with them", "of the latter for a ship" */
     private static void outWithBothHours() {
         int[] due = {2, 11, 11, 11, 2};
         for (int i = 0; i < due.length; i++) {
