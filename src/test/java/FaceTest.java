@@ -12,14 +12,25 @@ import java.util.stream.Collectors;
 
 /** The face of the class, and the rules of LANGUAGE.md that a look at the class or its text can tell. */
 public final class FaceTest {
+    private static final String INDEX = "IndexOutOfBoundsException";
+    private static final String ARGUMENT = "IllegalArgumentException";
+    private static final String STATE = "IllegalStateException";
+    private static final String I = " throws " + INDEX;
+    private static final String A = " throws " + ARGUMENT;
+    private static final String I_A = I + ", " + ARGUMENT;
+    private static final String I_S = I + ", " + STATE;
+    private static final String I_A_S = I_A + ", " + STATE;
+
     private static final String[] METHODS = {
-        "int ship(int, int, int, int, int, int)", "int fill(int, int)", "int crew(int, int, int)",
-        "int hours(int, int)", "int depth(int, int)", "void hinder(int, int, int, int)", "void bus(int, int, int)",
-        "int reside(int, int)", "int plan(int, int, int, int)", "int cancel(int)", "int replace(int, int)",
-        "int pass(int)", "int now()", "int state(int)", "int ends(int)", "int busAfter(int)", "int place(int)",
-        "int placeByLine(int, int)", "int fuel(int)", "int book(int, int, int, int, int, boolean)",
-        "int sailingOf(int)", "int lane(int)", "int paid(int)", "int taken(int)", "int list(int)",
-        "long account(int)", "long accountAnew(int)"};
+        "int ship(int, int, int, int, int, int)" + I_A_S, "int fill(int, int)" + I_A_S,
+        "int crew(int, int, int)" + I_A_S, "int hours(int, int)" + I_A, "int depth(int, int)" + I_A,
+        "void hinder(int, int, int, int)" + I_A, "void bus(int, int, int)" + I_A, "int reside(int, int)" + I,
+        "int plan(int, int, int, int)" + I_A_S, "int cancel(int)" + I_S, "int replace(int, int)" + I_S,
+        "int pass(int)" + A + ", " + STATE, "int now()", "int state(int)" + I, "int ends(int)" + I,
+        "int busAfter(int)" + I, "int place(int)" + I, "int placeByLine(int, int)" + I_A, "int fuel(int)" + I,
+        "int book(int, int, int, int, int, boolean)" + I_A_S, "int sailingOf(int)" + I, "int lane(int)" + I,
+        "int paid(int)" + I, "int taken(int)" + I, "int list(int)" + I + ", NoSuchElementException",
+        "long account(int)" + A, "long accountAnew(int)" + A};
     private static final String[] CONSTANTS = {"NONE -1", "PLANNED 0", "CANCELLED 1", "SAILED 2", "WALKER 0", "CAR 1",
         "VAN 2", "TRUCK 3", "FARES 0", "STATE 1", "FUEL 2"};
 
@@ -36,24 +47,41 @@ public final class FaceTest {
         return !Modifier.isPrivate(modifiers);
     }
 
+    private static String names(Class<?>[] types) {
+        return Arrays.stream(types).map(Class::getSimpleName).collect(Collectors.joining(", "));
+    }
+
     private static void methods() {
         Set<String> got = new TreeSet<>();
-        Set<String> hidden = new TreeSet<>();
         Set<String> names = new TreeSet<>();
+        for (Method m : ArchipelagoFerries.class.getDeclaredMethods()) {
+            if (isOpen(m.getModifiers())) {
+                String thrown = names(m.getExceptionTypes());
+                names.add(m.getName());
+                got.add(m.getReturnType().getSimpleName() + " " + m.getName() + "(" + names(m.getParameterTypes()) + ")"
+                    + (thrown.isEmpty() ? "" : " throws " + thrown));
+                Check.same("public " + m, Modifier.toString(m.getModifiers()), "public");
+            }
+        }
+        Check.same("methods", got.toString(), new TreeSet<>(Arrays.asList(METHODS)).toString());
+        Set<String> hidden = hiddenNames();
+        hidden.retainAll(names);
+        Check.same("private methods with public names", hidden.toString(), "[]");
+    }
+
+    private static Set<String> hiddenNames() {
+        Set<String> hidden = new TreeSet<>();
         for (Method m : ArchipelagoFerries.class.getDeclaredMethods()) {
             if (!isOpen(m.getModifiers())) {
                 hidden.add(m.getName());
-                continue;
             }
-            String taken = Arrays.stream(m.getParameterTypes()).map(Class::getSimpleName)
-                .collect(Collectors.joining(", "));
-            names.add(m.getName());
-            got.add(m.getReturnType().getSimpleName() + " " + m.getName() + "(" + taken + ")");
-            Check.same("public " + m, Modifier.toString(m.getModifiers()), "public");
         }
-        Check.same("methods", got.toString(), new TreeSet<>(Arrays.asList(METHODS)).toString());
-        hidden.retainAll(names);
-        Check.same("private methods with public names", hidden.toString(), "[]");
+        for (Class<?> inside : ArchipelagoFerries.class.getDeclaredClasses()) {
+            for (Method m : inside.getDeclaredMethods()) {
+                hidden.add(m.getName());
+            }
+        }
+        return hidden;
     }
 
     private static void constants() throws IllegalAccessException {
